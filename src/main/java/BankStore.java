@@ -193,7 +193,7 @@ public final class BankStore {
         // A CUT of more CELLS than BANKS clashes under every law, so none below the bound is tried.
         for (int next = wishes.largestCut(store); next <= MOST_BANKS && laws.howMany == 0; next++) {
             m = next;
-            laws.tryAll(trial, sort, m, wishes);
+            laws.weighAll(trial, sort, m, wishes);
         }
         if (laws.howMany == 0) {
             return NONE;
@@ -729,7 +729,7 @@ public final class BankStore {
         int firstA;
         int firstB;
 
-        void tryAll(Layout trial, int sort, int m, Wishes wishes) {
+        void weighAll(Layout trial, int sort, int m, Wishes wishes) {
             for (int a = 0; a < m; a++) {
                 for (int b = 0; b < m; b++) {
                     trial.takeLaw(sort, a, b, m);
