@@ -243,6 +243,8 @@ public final class CutsTest {
         c.due("block", x.bound(), 10);
         x.wish(2, 8, 1);
         c.due("a smaller one", x.bound(), 10);
+        x.wish(4, 8, 8);
+        c.due("all of THE TABLE", x.bound(), 64);
         x.table(16, 16);
         x.wish(4, 16, 8);
         c.due("largest", x.bound(), 128);
@@ -271,8 +273,16 @@ public final class CutsTest {
         c.due("nothing changed", x.cell(0, 0, 2), 2);
         c.due("nothing changed", x.cell(0, 1, 2), 1);
         x.banks(4);
+        x.lay(0, 0, 2);
         c.due("four BANKS", x.free(), 1 + 2 + 3 + 4);
+        c.due("told 0 0", x.cell(0, 0, 2), 0);
         c.due("told 1 1", x.cell(1, 1, 2), 3);
+        x.table(1, 1);
+        c.due("one CELL", x.free(), 1);
+        x.lay(0, 0, 3);
+        x.free();
+        c.due("one CELL is told anew", x.cell(0, 0, 2), 0);
+        c.due("one CELL", x.freeBanks(), 1);
         x.table(5, 13);
         c.due("65 CELLS", x.free(), STATE);
         x.table(16, 4);
@@ -325,6 +335,17 @@ public final class CutsTest {
         c.due("15 CELLS", x.freeBanks(), 15);
         x.table(9, 8);
         c.due("72 CELLS", x.freeBanks(), STATE);
+        // Only CELLS of rows 0 and 3 that lie far apart may share a BANK, three pairs at most.
+        x.table(4, 5);
+        x.forget();
+        x.wish(4, 3, 5);
+        x.wish(4, 4, 3);
+        x.wish(2, 2, 3);
+        c.due("17 of 20 CELLS", x.freeBanks(), 17);
+        x.banks(16);
+        c.due("not with 16", x.free(), NONE);
+        x.banks(17);
+        c.holds("with 17", x.free() > 0);
         x.table(8, 8);
         x.forget();
         for (int kind = 0; kind < 4; kind++) {

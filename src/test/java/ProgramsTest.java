@@ -147,12 +147,40 @@ public final class ProgramsTest {
         faulty("load a 0 1;store b", 4, 17);
         faulty("load a 0 1;add b a a;store c 0 1;", 4, 27);
         faulty("load h 0 1;add g h f;", 4, 19);
+        faulty("goad a 0 1;", 2, 0);
+        faulty("dul a b b;", 2, 0);
+        faulty("odd a b b;", 2, 0);
+        faulty("ttore a 0 1;", 2, 0);
+        cutOff("loadx", 4, 2, 4);
+        cutOff("load a 0 99999", 11, 2, 11);
+        cutOff("load a 0 1;load ab", 17, 2, 17);
+        fullTape();
         BankStore x = new BankStore();
         Check.program(x, "?");
         c.due("the latest", x.fault(), 1);
         c.due("asking leaves it", x.fault(), 1);
         Check.program(x, "load a 999 99;load h 0 1;store h 999 99;");
         c.due("none", x.fault(), 0);
+    }
+
+    /** What stood behind the end of THE TAPE is not read. */
+    private static void cutOff(String text, int keep, int fault, int place) {
+        BankStore x = new BankStore();
+        Check.tell(x, text);
+        x.end(keep);
+        c.due("[" + text + "] cut off at " + keep, x.program(), -10 - place);
+        c.due("[" + text + "] cut off, fault", x.fault(), fault);
+    }
+
+    private static void fullTape() {
+        for (String last : new String[] {"load", "load a 0 99", "load a 0 12", "load a 0 1;", "        "}) {
+            BankStore x = new BankStore();
+            boolean whole = last.endsWith(";") || last.isBlank();
+            String text = " ".repeat(240 - last.length()) + last;
+            int lines = last.isBlank() ? 0 : 1;
+            c.due("240 bytes [" + last + "]", Check.program(x, text), whole ? lines : -250);
+            c.due("240 bytes [" + last + "], fault", x.fault(), whole ? 0 : 2);
+        }
     }
 
     private static void tooManyLines() {
@@ -302,6 +330,10 @@ public final class ProgramsTest {
                 tunedIsFirstOfAll(x, m, l, l == 5);
             }
         }
+        x.table(5, 3);
+        x.banks(5);
+        tunedIsFirstOfAll(x, 5, 7, true);
+        x.table(8, 8);
         x.banks(8);
         x.law(2, 0, 0);
         x.lay(0, 1, 3);

@@ -115,6 +115,10 @@ public final class StreamsTest {
         // Comes 0, 1, 2, waits in 3, 4, 5, comes in 6, then 7, 8, 9: BANK 1 takes in 8, 13, 18; BANK 0 to 16.
         c.due("two places done", y.queued(0, 1, 7, 2, 0), 18 + 5);
         c.due("two places, waits", y.queued(0, 1, 7, 2, 1), 3);
+        // Each of 16 BANKS, one of them the last of all 17, is asked once.
+        BankStore all = of17(12, 0, 1, 2, 3, 4, 5, 6, 7, 8, 9, 10, 11, 12, 13, 14, 15);
+        all.lay(0, 1, 16);
+        c.due("17 BANKS", all.queued(0, 1, 16, 1, 0), 16 + 12);
         BankStore z = new BankStore();
         z.banks(1);
         z.rest(12);
@@ -160,12 +164,26 @@ public final class StreamsTest {
         c.due("another round, from the middle on", x.rate(4, 1, 1), 7);
         c.due("eleven rounds", row(8, 12, "6576173163635").rate(0, 1, 2), 11);
         // 16, 1, 2, 3, 16, 3, 2: only BANK 16 has another rest at the end of rounds 1 and 2.
-        BankStore y = row(17, 9, "0123032");
-        y.lay(0, 0, 16);
-        y.lay(0, 4, 16);
+        BankStore y = of17(9, 16, 1, 2, 3, 16, 3, 2);
         c.due("17 BANKS, asks", y.rate(0, 1, 0), 7);
         c.due("17 BANKS, beats", y.rate(0, 1, 1), 20);
         c.due("17 BANKS, rounds", y.rate(0, 1, 2), 4);
+        // Rests of BANKS that a careless packing would mix up or lose.
+        c.due("BANK 0", of17(9, 0, 1, 2, 3, 0, 3, 2).rate(0, 1, 2), 4);
+        c.due("BANK 15", of17(8, 15, 3, 5, 15, 5, 2, 3).rate(0, 1, 2), 3);
+        c.due("BANK 15", of17(12, 15, 10, 12, 15, 12, 10, 3).rate(0, 1, 2), 6);
+        c.due("BANKS 0 and 16", of17(9, 12, 16, 3, 0, 16, 0, 3).rate(0, 1, 2), 5);
+        c.due("BANKS 2 and 15", of17(8, 2, 11, 15, 2, 15, 11).rate(0, 1, 2), 4);
+        c.due("long rests", of17(12, 12, 11, 14, 6, 0, 12, 0, 11, 6).rate(0, 1, 2), 4);
+    }
+
+    /** A TABLE of one row, of 17 BANKS. */
+    private static BankStore of17(int r, int... cells) {
+        BankStore x = row(17, r, "0".repeat(cells.length));
+        for (int j = 0; j < cells.length; j++) {
+            x.lay(0, j, cells[j]);
+        }
+        return x;
     }
 
     private static void steps() {
@@ -182,6 +200,10 @@ public final class StreamsTest {
         // Law 0, a 0, b 1: steps that are multiples of 8 stay in one BANK.
         c.due("REST 2", x.steps(0), 99 - 12);
         c.due("REST 2", x.steps(1), 8);
+        // From address 0 on even steps meet BANK 0 alone, from 1 on they would meet two.
+        BankStore y = row(3, 2, "0102");
+        c.due("from address 0 on", y.steps(0), 99 - 49);
+        c.due("from address 0 on", y.steps(1), 2);
         for (int v : new int[] {-1, 2, MIN, MAX}) {
             c.due("what " + v, x.steps(v), BAD);
         }

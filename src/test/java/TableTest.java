@@ -191,6 +191,8 @@ public final class TableTest {
     private static void bank() {
         c.promise(7);
         BankStore x = new BankStore();
+        c.due("the first CELL", x.bank(0, 1), 0);
+        c.due("not behind the last row", x.bank(0, 2), 112);
         x.table(3, 5);
         x.banks(7);
         c.due("bank(4, 0)", x.bank(4, 0), 3);
@@ -199,6 +201,9 @@ public final class TableTest {
         c.due("bank(5, 0)", x.bank(5, 0), 0);
         c.due("bank(5, 1)", x.bank(5, 1), NONE);
         c.due("bank(6, 2)", x.bank(6, 2), NONE);
+        x.law(0, 1, 0);
+        c.due("row 3 would be the first", x.bank(3, 1), NONE);
+        c.due("row 3 would be the last", x.bank(3, 2), NONE);
         x.law(0, 3, 0);
         c.due("bank(3, 1)", x.bank(3, 1), 16);
         c.due("bank(3, 2)", x.bank(3, 2), 20);
@@ -207,6 +212,9 @@ public final class TableTest {
         c.due("bank(0, 0)", x.bank(0, 0), 14);
         c.due("bank(6, 1)", x.bank(6, 1), 18);
         c.due("bank(6, 2)", x.bank(6, 2), 18);
+        x.lay(0, 0, 5);
+        c.due("only the first CELL", x.bank(5, 1), 0);
+        c.due("only the first CELL", x.bank(5, 2), 0);
         for (int v : new int[] {-1, 7, MIN, MAX}) {
             c.due("bank(" + v + ", 0)", x.bank(v, 0), BAD);
         }
