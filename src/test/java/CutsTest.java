@@ -160,6 +160,20 @@ public final class CutsTest {
         c.due("none now", x.count(6), 0);
         c.due("none granted", x.granted(), 0);
         c.due("numbers begin anew", x.wish(0, 2, 1), 0);
+        c.due("those that went are not looked at", x.fewest(0, 0), 2);
+        x.wish(0, 2, 1);
+        x.wish(0, 8, 1);
+        x.forget();
+        x.wish(0, 2, 1);
+        x.wish(0, 2, 1);
+        c.due("those that went are not looked at", x.fewest(1, 0), 2);
+        c.due("those that went are not looked at", x.freeBanks(), 2);
+        c.due("those that went are not looked at", x.bound(), 2);
+        for (int k = 2; k < 6; k++) {
+            x.wish(0, 2, 1);
+        }
+        c.due("six", x.fewest(0, 0), 2);
+        c.due("six", x.granted(), 63);
     }
 
     private static void granted() {
@@ -312,6 +326,23 @@ public final class CutsTest {
         c.due("SPENT", x.free(), SPENT);
         c.due("nothing changed", x.cell(0, 0, 2), 3);
         c.due("nothing changed", x.cell(7, 7, 2), 0);
+        // Two layings that a long search found: one takes all TRIES there are, the other would take one more.
+        BankStore y = new BankStore();
+        y.banks(9);
+        y.wish(4, 2, 4);
+        y.wish(3, 5, 1);
+        y.wish(0, 5, 1);
+        y.wish(1, 4, 1);
+        c.due("the 20000th TRY lays the last CELL", y.free(), 20000);
+        BankStore z = new BankStore();
+        z.table(6, 5);
+        z.banks(3);
+        z.wish(0, 2, 2);
+        z.wish(1, 2, 3);
+        z.wish(0, 2, 3);
+        z.wish(3, 2, 3);
+        c.due("the 20001st would", z.free(), SPENT);
+        c.due("SPENT with as many BANKS", z.freeBanks(), SPENT);
     }
 
     private static void freeBanks() {
