@@ -52,7 +52,8 @@ final class Check {
     }
 
     void finish() {
-        System.out.println(wrong == 0 ? asked + " answers are as due" : wrong + " of " + asked + " answers are not as due");
+        System.out.println(wrong == 0 ? asked + " answers are as due"
+                : wrong + " of " + asked + " answers are not as due");
         if (wrong != 0) {
             System.exit(1);
         }

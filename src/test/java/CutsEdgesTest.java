@@ -1,4 +1,4 @@
-/** The boundary cases of CUTS, WISHES, searched laws and FREE LAYINGS, sentence by sentence: Terms, promises 8 to 16. */
+/** The boundary cases of CUTS, WISHES, laws and FREE LAYINGS, sentence by sentence: Terms, promises 8 to 16. */
 public final class CutsEdgesTest {
     private static final Check c = new Check();
     private static final int BAD = BankStore.BAD, STATE = BankStore.STATE, FULL = BankStore.FULL;
@@ -213,8 +213,8 @@ public final class CutsEdgesTest {
     }
 
     private static void leastBank() {
-        c.sentence(0, "FREE LAYING: row by row each CELL has the least BANK (below M) so that no CUT of any WISH has two"
-                + " CELLS that are laid in one BANK,");
+        c.sentence(0, "FREE LAYING: row by row each CELL has the least BANK (below M) so that no CUT of any WISH"
+                + " has two CELLS that are laid in one BANK,");
         BankStore x = new BankStore();
         x.table(2, 4);
         x.banks(3);
@@ -291,36 +291,15 @@ public final class CutsEdgesTest {
         c.due("each search counts anew", x.free(), 16 * 17 / 2);
     }
 
-    /** A laying that a long search found: it takes 20000 TRIES. */
-    private static BankStore takesAllTries() {
-        BankStore x = new BankStore();
-        x.banks(9);
-        x.wish(4, 2, 4);
-        x.wish(3, 5, 1);
-        x.wish(0, 5, 1);
-        x.wish(1, 4, 1);
-        return x;
-    }
-
-    /** Another one: it would take 20001. */
-    private static BankStore takesOneMore() {
-        BankStore x = new BankStore();
-        x.table(6, 5);
-        x.banks(3);
-        x.wish(0, 2, 2);
-        x.wish(1, 2, 3);
-        x.wish(0, 2, 3);
-        x.wish(3, 2, 3);
-        return x;
-    }
-
     private static void spentTries() {
         c.sentence(0, "SPENT, when 20000 have been and not all CELLS are laid.");
-        BankStore all = takesAllTries();
+        BankStore all = Layings.takesAllTries();
         c.due("all CELLS are laid by the 20000th", all.free(), 20000);
         all.law(2, 0, 0);
         c.due("they are told", all.granted(), 15);
-        BankStore more = takesOneMore();
+        BankStore none = Layings.noneJustInTime();
+        c.due("there is none, as the 19999th shows", none.free(), NONE);
+        BankStore more = Layings.takesOneMore();
         more.lay(5, 4, 2);
         c.due("all but one are", more.free(), SPENT);
         c.due("the last is not told", more.cell(5, 4, 2), 2);
@@ -361,8 +340,8 @@ public final class CutsEdgesTest {
     }
 
     private static void cuts() {
-        c.sentence(9, "Of all CUTS: 0 how many there are, 1 those of BEATS 1, 2 the most BEATS (0: none), 3 all BEATS,"
-                + " summed, 4 the first (row times 16 and column) of the most BEATS (NONE). BAD.");
+        c.sentence(9, "Of all CUTS: 0 how many there are, 1 those of BEATS 1, 2 the most BEATS (0: none), 3 all"
+                + " BEATS, summed, 4 the first (row times 16 and column) of the most BEATS (NONE). BAD.");
         int[][] nowhere = {{0, 6, 1}, {0, 2, 5}, {1, 5, 1}, {1, 2, 4}, {2, 5, 1}, {3, 5, 1}, {4, 5, 1}, {4, 1, 6}};
         BankStore x = oneBank(4, 5);
         for (int[] s : nowhere) {
@@ -375,7 +354,7 @@ public final class CutsEdgesTest {
             int cells = s[0] == 4 ? 20 : s[1];
             int[] due = {s[3], 0, cells, cells * s[3], s[0] == 3 ? 3 : 0};
             for (int what = 0; what < 5; what++) {
-                c.due("those that just fit, kind " + s[0] + ", what " + what, x.cuts(s[0], s[1], s[2], what), due[what]);
+                c.due("just fits, kind " + s[0] + ", what " + what, x.cuts(s[0], s[1], s[2], what), due[what]);
             }
         }
         BankStore last = new BankStore();
@@ -466,13 +445,15 @@ public final class CutsEdgesTest {
 
     private static void fewestAre(String which, BankStore x, int sort, int... due) {
         for (int what = 0; what < 4; what++) {
-            c.due(which + ", sort " + sort + ", what " + what, x.fewest(sort, what), due.length == 1 ? due[0] : due[what]);
+            int want = due.length == 1 ? due[0] : due[what];
+            c.due(which + ", sort " + sort + ", what " + what, x.fewest(sort, what), want);
         }
     }
 
     private static void fewest() {
-        c.sentence(13, "Of laws 0 (sort 0), 1 (sort 1) with a, b below M: the fewest BANKS (1 to 17) with which one GRANTS"
-                + " all WISHES (what 0), how many of them (1), a (2), b (3) of the first by a, then b. BAD; NONE: none.");
+        c.sentence(13, "Of laws 0 (sort 0), 1 (sort 1) with a, b below M: the fewest BANKS (1 to 17) with which one"
+                + " GRANTS all WISHES (what 0), how many of them (1), a (2), b (3) of the first by a, then b."
+                + " BAD; NONE: none.");
         for (int sort = 0; sort < 2; sort++) {
             BankStore x = new BankStore();
             x.table(16, 16);
@@ -527,8 +508,8 @@ public final class CutsEdgesTest {
     }
 
     private static void bound() {
-        c.sentence(14, "The fewest BANKS that any laying needs by the sizes of CUTS alone: the most CELLS of a CUT of a"
-                + " WISH that is somewhere (1 at least).");
+        c.sentence(14, "The fewest BANKS that any laying needs by the sizes of CUTS alone: the most CELLS of a CUT"
+                + " of a WISH that is somewhere (1 at least).");
         c.due("no WISH", new BankStore().bound(), 1);
         boundIs(0, 16, 1, 1, 16, 16);
         boundIs(0, 16, 1, 16, 15, 1);
@@ -561,7 +542,8 @@ public final class CutsEdgesTest {
     }
 
     private static void free() {
-        c.sentence(15, "FREE LAYING for M: it becomes what is told for CELLS (THE LAW stays): how many TRIES it took.");
+        c.sentence(15, "FREE LAYING for M: it becomes what is told for CELLS (THE LAW stays): how many TRIES it"
+                + " took.");
         BankStore x = new BankStore();
         x.table(2, 2);
         x.law(1, 3, 4);
@@ -589,7 +571,7 @@ public final class CutsEdgesTest {
         c.due("STATE: nothing changed", x.cell(4, 12, 2), 1);
         x.table(16, 16);
         c.due("256 CELLS, STATE comes ahead of NONE", x.free(), STATE);
-        BankStore more = takesOneMore();
+        BankStore more = Layings.takesOneMore();
         more.lay(0, 0, 1);
         more.lay(5, 4, 2);
         c.due("SPENT", more.free(), SPENT);
@@ -602,20 +584,11 @@ public final class CutsEdgesTest {
         c.due("SPENT: WISHES stay", more.count(6), 4);
     }
 
-    /** Only some CELLS of rows 0 and 3 may share a BANK, three pairs of the 20 at most. */
-    private static BankStore needs17() {
-        BankStore x = new BankStore();
-        x.table(4, 5);
-        x.wish(4, 3, 5);
-        x.wish(4, 4, 3);
-        x.wish(2, 2, 3);
-        return x;
-    }
-
     private static void freeBanks() {
-        c.sentence(16, "The fewest BANKS (1, 2, .. 17, one by one) with which there is a FREE LAYING; nothing changes.");
+        c.sentence(16, "The fewest BANKS (1, 2, .. 17, one by one) with which there is a FREE LAYING; nothing"
+                + " changes.");
         c.due("one", new BankStore().freeBanks(), 1);
-        BankStore x = needs17();
+        BankStore x = Layings.needs17();
         x.lay(3, 4, 7);
         c.due("17", x.freeBanks(), 17);
         c.due("M stays", x.count(2), 8);
@@ -641,7 +614,7 @@ public final class CutsEdgesTest {
         x.forget();
         x.wish(4, 8, 8);
         c.due("64 CELLS, all apart", x.freeBanks(), NONE);
-        BankStore more = takesOneMore();
+        BankStore more = Layings.takesOneMore();
         c.due("SPENT with 3, though more would do", more.freeBanks(), SPENT);
         more.banks(17);
         c.holds("more would do", more.free() > 0);

@@ -326,23 +326,10 @@ public final class CutsTest {
         c.due("SPENT", x.free(), SPENT);
         c.due("nothing changed", x.cell(0, 0, 2), 3);
         c.due("nothing changed", x.cell(7, 7, 2), 0);
-        // Two layings that a long search found: one takes all TRIES there are, the other would take one more.
-        BankStore y = new BankStore();
-        y.banks(9);
-        y.wish(4, 2, 4);
-        y.wish(3, 5, 1);
-        y.wish(0, 5, 1);
-        y.wish(1, 4, 1);
-        c.due("the 20000th TRY lays the last CELL", y.free(), 20000);
-        BankStore z = new BankStore();
-        z.table(6, 5);
-        z.banks(3);
-        z.wish(0, 2, 2);
-        z.wish(1, 2, 3);
-        z.wish(0, 2, 3);
-        z.wish(3, 2, 3);
-        c.due("the 20001st would", z.free(), SPENT);
-        c.due("SPENT with as many BANKS", z.freeBanks(), SPENT);
+        c.due("the 20000th TRY lays the last CELL", Layings.takesAllTries().free(), 20000);
+        BankStore y = Layings.takesOneMore();
+        c.due("the 20001st would", y.free(), SPENT);
+        c.due("SPENT with as many BANKS", y.freeBanks(), SPENT);
     }
 
     private static void freeBanks() {
@@ -366,12 +353,7 @@ public final class CutsTest {
         c.due("15 CELLS", x.freeBanks(), 15);
         x.table(9, 8);
         c.due("72 CELLS", x.freeBanks(), STATE);
-        // Only CELLS of rows 0 and 3 that lie far apart may share a BANK, three pairs at most.
-        x.table(4, 5);
-        x.forget();
-        x.wish(4, 3, 5);
-        x.wish(4, 4, 3);
-        x.wish(2, 2, 3);
+        x = Layings.needs17();
         c.due("17 of 20 CELLS", x.freeBanks(), 17);
         x.banks(16);
         c.due("not with 16", x.free(), NONE);

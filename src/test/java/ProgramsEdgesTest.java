@@ -69,8 +69,8 @@ public final class ProgramsEdgesTest {
     }
 
     private static void tokens() {
-        c.sentence(0, "TOKENS, each as long as may be, blanks (32) between: NAMES (a .. z), NUMBERS (1 to 4 figures),"
-                + " one ; .");
+        c.sentence(0, "TOKENS, each as long as may be, blanks (32) between: NAMES (a .. z), NUMBERS (1 to 4"
+                + " figures), one ; .");
         fine("load a0001 0002;", 1);
         fine("load a0   1;load b1 1;add c b a;", 3);
         fine("   load   a   0   1   ;   ", 1);
@@ -91,8 +91,8 @@ public final class ProgramsEdgesTest {
     }
 
     private static void lines() {
-        c.sentence(0, "text: { line } line: load ROW NUMBER NUMBER ; | store ROW NUMBER NUMBER ; | add ROW ROW ROW ; |"
-                + " mul ROW ROW ROW ; ROW: a NAME of one letter, a to h");
+        c.sentence(0, "text: { line } line: load ROW NUMBER NUMBER ; | store ROW NUMBER NUMBER ; | add ROW ROW ROW"
+                + " ; | mul ROW ROW ROW ; ROW: a NAME of one letter, a to h");
         fine("", 0);
         fine("load a 0 1;", 1);
         fine("load a 0 1;store a 0 1;add b a a;mul c a b;", 4);
@@ -202,7 +202,8 @@ public final class ProgramsEdgesTest {
     }
 
     private static void cannotStand() {
-        c.sentence(0, "2 a TOKEN that can not stand there (a NAME that is no line or no ROW; or the end: the length).");
+        c.sentence(0, "2 a TOKEN that can not stand there (a NAME that is no line or no ROW; or the end: the"
+                + " length).");
         String load = "load b 999 99;";
         for (int n = 1; n < load.length(); n++) {
             faulty(load.substring(0, n), 2, n < 4 ? 0 : n);
@@ -215,7 +216,8 @@ public final class ProgramsEdgesTest {
         for (int n = 12; n < store.length(); n++) {
             faulty(store.substring(0, n), 2, n < 16 ? 11 : n);
         }
-        for (String name : new String[] {"a", "loa", "loadd", "stor", "stores", "ad", "addd", "mu", "mull", "lload"}) {
+        for (String name : new String[] {"a", "loa", "loadd", "stor", "stores", "ad", "addd", "mu", "mull", "lload",
+            "boad", "ltore", "odd", "dul", "loaf", "storm", "ado", "mud"}) {
             faulty(name + " a 0 1;", 2, 0);
             faulty("load a 0 1; " + name, 2, 12);
         }
@@ -312,8 +314,9 @@ public final class ProgramsEdgesTest {
     }
 
     private static void units() {
-        c.sentence(0, "Three units: the PORT (load, store), the ADDER, the MULTIPLIER; each does its lines in order,"
-                + " element by element, one in a beat at most, the next line behind the last element of the one ahead.");
+        c.sentence(0, "Three units: the PORT (load, store), the ADDER, the MULTIPLIER; each does its lines in"
+                + " order, element by element, one in a beat at most, the next line behind the last element of"
+                + " the one ahead.");
         BankStore x = with("load a 0 1;load b 0 8;mul c b b;mul d a a;add e b b;add f a a;store a 3 1;");
         // load a: BANKS 0, 1 in 0, 1. load b: BANK 0 in 4, 8, there in 8, 12. What waits for b holds what is behind it.
         int[][] goes = {{0, 1}, {4, 8}, {8, 12}, {13, 14}, {8, 12}, {13, 14}, {9, 10}};
@@ -330,9 +333,9 @@ public final class ProgramsEdgesTest {
     }
 
     private static void waits() {
-        c.sentence(0, "An element goes into its unit in the first beat in which the unit is free (0 or later), its sources"
-                + " are there (LINKED: that element of both; else all elements of both), and (PORT) its BANK can be asked"
-                + " (REST goes on from line to line).");
+        c.sentence(0, "An element goes into its unit in the first beat in which the unit is free (0 or later), its"
+                + " sources are there (LINKED: that element of both; else all elements of both), and (PORT) its"
+                + " BANK can be asked (REST goes on from line to line).");
         BankStore x = with("load a 0 1;load b 1 1;add c a b;add d b a;store a 8 1;");
         // load a: BANKS 0, 1, 2 in 0, 1, 2. load b: BANKS 1, 2, 3 in 5, 6, 7: BANK 1 rests up to there.
         int[][] linked = {{0, 1, 2}, {5, 6, 7}, {9, 10, 11}, {12, 13, 14}, {8, 9, 10}};
@@ -342,6 +345,11 @@ public final class ProgramsEdgesTest {
                 c.due("linked, line " + k + ", element " + e, x.when(3, true, k, e, 0), linked[k][e]);
                 c.due("not linked, line " + k + ", element " + e, x.when(3, false, k, e, 0), not[k][e]);
             }
+        }
+        for (String sources : new String[] {"a b", "b a", "b b"}) {
+            BankStore late = with("load a 0 1;mul b a a;add c " + sources + ";");
+            c.due("the later source of " + sources, late.when(1, true, 2, 0, 0), 9);
+            c.due("the later source of " + sources + ", not linked", late.when(2, false, 2, 0, 0), 11);
         }
         c.due("the first goes in beat 0", x.when(64, false, 0, 0, 0), 0);
         c.due("no PROGRAM leaves a rest behind", x.when(64, true, 0, 0, 0), 0);
@@ -447,6 +455,15 @@ public final class ProgramsEdgesTest {
         c.due("refused: all stay", x.count(9), 11);
         c.due("all but the last", x.end(10), 11);
         c.due("the bytes behind are gone", x.program(), 1);
+        for (int n = 8; n < 27; n++) {
+            Check.tell(x, "load a 12345678901234567890;");
+            x.end(n);
+            c.due("cut off within a NUMBER at " + n, x.program(), n < 11 ? -10 - n : -17);
+            c.due("cut off within a NUMBER at " + n + ", fault", x.fault(), n < 11 ? 2 : n == 11 ? 3 : 1);
+        }
+        Check.tell(x, "load aaaaaaaaaaaaaaaaaaaaaaa");
+        x.end(6);
+        c.due("cut off within a NAME", x.program(), -16);
         x.feed(0x3131313131313131L);
         x.end(0);
         x.feed(0x2020202020202020L);
@@ -455,8 +472,8 @@ public final class ProgramsEdgesTest {
     }
 
     private static void program() {
-        c.sentence(25, "THE TAPE (empty then) tells THE PROGRAM: how many lines; -10 less the place of its FAULT: that which"
-                + " was told stays.");
+        c.sentence(25, "THE TAPE (empty then) tells THE PROGRAM: how many lines; -10 less the place of its FAULT:"
+                + " that which was told stays.");
         BankStore x = with("load c 7 8;store c 9 10;");
         int[][] told = {{0, 2, 7, 8}, {1, 2, 9, 10}};
         String[] wrong = {"!", "load", "load a 0 0;", "store a 0 1;", TEN.repeat(17), TEN + TEN + TEN + "?"};
@@ -499,8 +516,8 @@ public final class ProgramsEdgesTest {
     }
 
     private static void line() {
-        c.sentence(27, "Of a LINE: 0 what it is (0 load, 1 store, 2 add, 3 mul), 1 the ROW (0 to 7), 2 and 3 its NUMBERS, or"
-                + " the ROWS of which. BAD.");
+        c.sentence(27, "Of a LINE: 0 what it is (0 load, 1 store, 2 add, 3 mul), 1 the ROW (0 to 7), 2 and 3 its"
+                + " NUMBERS, or the ROWS of which. BAD.");
         BankStore x = with("load a 0 1;load h 999 99;store a 999 99;store h 0 1;add a a h;mul h h a;");
         int[][] due = {{0, 0, 0, 1}, {0, 7, 999, 99}, {1, 0, 999, 99}, {1, 7, 0, 1}, {2, 0, 0, 7}, {3, 7, 7, 0}};
         for (int k = 0; k < 6; k++) {
@@ -545,8 +562,8 @@ public final class ProgramsEdgesTest {
     }
 
     private static void when() {
-        c.sentence(29, "The beat in which element e of LINE k goes into its unit (what 0), when what it makes is there (1)."
-                + " BAD.");
+        c.sentence(29, "The beat in which element e of LINE k goes into its unit (what 0), when what it makes is"
+                + " there (1). BAD.");
         BankStore x = with("load a 0 1;mul b a a;");
         c.due("the first of the first", x.when(64, true, 0, 0, 0), 0);
         c.due("the last of the last", x.when(64, true, 1, 63, 0), 67);
@@ -567,8 +584,8 @@ public final class ProgramsEdgesTest {
     }
 
     private static void used() {
-        c.sentence(30, "Beats in which the PORT (unit 0), the ADDER (1), the MULTIPLIER (2) takes an element, by all beats"
-                + " up to THE END: what 0 the first, 1 the second. BAD.");
+        c.sentence(30, "Beats in which the PORT (unit 0), the ADDER (1), the MULTIPLIER (2) takes an element, by"
+                + " all beats up to THE END: what 0 the first, 1 the second. BAD.");
         BankStore x = with("load a 0 1;store a 4 1;mul b a a;");
         int[] lines = {2, 0, 1};
         for (int unit = 0; unit < 3; unit++) {
@@ -591,8 +608,8 @@ public final class ProgramsEdgesTest {
     }
 
     private static void tuned() {
-        c.sentence(31, "The LAW 0 (a, b below M) with which THE PROGRAM ends first: a (what 0), b (1), THE END (2); of several"
-                + " the first by a, then b. BAD.");
+        c.sentence(31, "The LAW 0 (a, b below M) with which THE PROGRAM ends first: a (what 0), b (1), THE END (2);"
+                + " of several the first by a, then b. BAD.");
         BankStore none = new BankStore();
         for (int what = 0; what < 3; what++) {
             c.due("no lines: all alike, what " + what, none.tuned(64, false, what), 0);
@@ -610,6 +627,12 @@ public final class ProgramsEdgesTest {
         for (int what = 0; what < 3; what++) {
             c.due("two BANKS, what " + what, one.tuned(4, true, what), two[what]);
         }
+        c.due("L 1", one.tuned(1, false, 2), 4);
+        c.due("L 64", one.tuned(64, false, 2), 32 * 4 - 3 + 4);
+        one.table(16, 1);
+        // One column: a parts its CELLS, b does not.
+        c.due("of another TABLE: a", one.tuned(4, true, 0), 1);
+        c.due("of another TABLE: b", one.tuned(4, true, 1), 0);
         tunedIsTheFirst("load a 0 15;load b 1 8;", 17);
         tunedIsTheFirst("load a 3 7;load b 0 99;store a 5 17;", 16);
         tunedIsTheFirst("load a 0 8;", 3);

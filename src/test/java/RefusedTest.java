@@ -113,8 +113,8 @@ public final class RefusedTest {
     }
 
     private static void answers() {
-        c.sentence(0, "Answers: BAD -1 (a number is not as told, there is no such CELL, WISH, LINE, SHEET), STATE -2 (as"
-                + " told), FULL -3, NONE -4 (there is none), SPENT -6, the first that fits;");
+        c.sentence(0, "Answers: BAD -1 (a number is not as told, there is no such CELL, WISH, LINE, SHEET), STATE"
+                + " -2 (as told), FULL -3, NONE -4 (there is none), SPENT -6, the first that fits;");
         c.due("BAD", BankStore.BAD, -1);
         c.due("STATE", BankStore.STATE, -2);
         c.due("FULL", BankStore.FULL, -3);
@@ -326,19 +326,6 @@ public final class RefusedTest {
         return x;
     }
 
-    private static BankStore spends() {
-        BankStore x = full();
-        x.table(6, 5);
-        x.banks(3);
-        x.forget();
-        x.wish(0, 2, 2);
-        x.wish(1, 2, 3);
-        x.wish(0, 2, 3);
-        x.wish(3, 2, 3);
-        x.lay(0, 1, 2);
-        return x;
-    }
-
     private static BankStore clashes() {
         BankStore x = full();
         x.forget();
@@ -349,8 +336,8 @@ public final class RefusedTest {
     private static void refusedSearches() {
         changesNothing("free() of 65 CELLS", RefusedTest::of65, STATE, BankStore::free);
         changesNothing("freeBanks() of 65 CELLS", RefusedTest::of65, STATE, BankStore::freeBanks);
-        changesNothing("free() that is SPENT", RefusedTest::spends, SPENT, BankStore::free);
-        changesNothing("freeBanks() that is SPENT", RefusedTest::spends, SPENT, BankStore::freeBanks);
+        changesNothing("free() that is SPENT", Layings::takesOneMore, SPENT, BankStore::free);
+        changesNothing("freeBanks() that is SPENT", Layings::takesOneMore, SPENT, BankStore::freeBanks);
         changesNothing("free() of 16 CELLS, all apart", RefusedTest::clashes, NONE, BankStore::free);
         BankStore most = new BankStore();
         most.table(3, 6);

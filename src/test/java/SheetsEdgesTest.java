@@ -25,8 +25,8 @@ public final class SheetsEdgesTest {
     }
 
     private static void rowsOfCells() {
-        c.sentence(0, "SHEETS 0 to 3 are rows of BYTES (lane 0), SHORTS (1), INTS (2) with 0 to 256 CELLS,"
-                + " or nothing (at first).");
+        c.sentence(0, "SHEETS 0 to 3 are rows of BYTES (lane 0), SHORTS (1), INTS (2) with 0 to 256 CELLS, or"
+                + " nothing (at first).");
         for (int k = 0; k < 4; k++) {
             BankStore x = oneCell();
             c.due("SHEET " + k + " at first", x.read(k, 0, 0), NULL);
@@ -37,7 +37,8 @@ public final class SheetsEdgesTest {
                     c.due(which + ", behind the last", x.write(k, n, 5), INDEX);
                     c.due(which + ", behind the last, read", x.read(k, lane, n), INDEX);
                     c.due(which + ", the last", x.write(k, n - 1, 5), n == 0 ? INDEX : 1);
-                    c.holds(which + ", the last, read", n == 0 ? x.read(k, lane, 0) == INDEX : x.read(k, lane, n - 1) >= 0);
+                    int read = x.read(k, lane, n - 1);
+                    c.holds(which + ", the last, read", n == 0 ? read == INDEX : read >= 0);
                 }
                 c.due("SHEET " + k + ", lane " + lane + ", 257", x.sheet(k, lane, 257), BAD);
             }
@@ -58,8 +59,8 @@ public final class SheetsEdgesTest {
     }
 
     private static void faults() {
-        c.sentence(0, "A FAULT is what the machine finds: 1 NULL (nothing), 2 INDEX, 3 CAST (another lane),"
-                + " 4 SIZE (below 0).");
+        c.sentence(0, "A FAULT is what the machine finds: 1 NULL (nothing), 2 INDEX, 3 CAST (another lane), 4 SIZE"
+                + " (below 0).");
         BankStore x = oneCell();
         c.due("NULL, write", x.write(2, 0, 0), NULL);
         c.due("NULL, read", x.read(2, 0, 0), NULL);
@@ -163,8 +164,8 @@ public final class SheetsEdgesTest {
     }
 
     private static void read() {
-        c.sentence(34, "What is told for all CELLS of THE TABLE, row by row, is read of a SHEET taken as of a lane, from CELL f"
-                + " on: how many became others.");
+        c.sentence(34, "What is told for all CELLS of THE TABLE, row by row, is read of a SHEET taken as of a lane,"
+                + " from CELL f on: how many became others.");
         for (int lane = 0; lane < 3; lane++) {
             BankStore x = new BankStore();
             x.table(3, 2);

@@ -71,8 +71,8 @@ public final class StreamsEdgesTest {
     }
 
     private static void rests() {
-        c.sentence(0, "A BANK that is asked in beat t can be asked again in beat t + REST (1 to 12; 4 at first)"
-                + " and not ahead.");
+        c.sentence(0, "A BANK that is asked in beat t can be asked again in beat t + REST (1 to 12; 4 at first) and"
+                + " not ahead.");
         c.due("at first", Check.laid(1, 1, 1).beat(0, 1, 1), 4);
         for (int r = 1; r <= 12; r++) {
             BankStore x = row(17, r, 16, 16, 3);
@@ -101,8 +101,8 @@ public final class StreamsEdgesTest {
     }
 
     private static void order() {
-        c.sentence(0, "IN ORDER: each ask goes in the first beat behind the one ahead in which its BANK can be asked"
-                + " (the first in beat 0 or later);");
+        c.sentence(0, "IN ORDER: each ask goes in the first beat behind the one ahead in which its BANK can be"
+                + " asked (the first in beat 0 or later);");
         BankStore x = row(3, 6, 0, 0, 1, 2, 1);
         int[] beats = {0, 6, 7, 8, 13, 14, 20};
         for (int k = 0; k < beats.length; k++) {
@@ -123,8 +123,8 @@ public final class StreamsEdgesTest {
     }
 
     private static void takes() {
-        c.sentence(0, "By QUEUES of q places (1 to 8): in each beat first each BANK that can be asked takes the first ask"
-                + " of its QUEUE, if there is one;");
+        c.sentence(0, "By QUEUES of q places (1 to 8): in each beat first each BANK that can be asked takes the"
+                + " first ask of its QUEUE, if there is one;");
         BankStore x = row(2, 1, 0, 0, 0, 1);
         c.due("one ask comes in beat 0, is taken in 1", x.queued(0, 1, 1, 1, 0), 2);
         // With REST 1 the place that an ask leaves is free in the same beat.
@@ -140,6 +140,9 @@ public final class StreamsEdgesTest {
             c.due("places " + q + ": waits", z.queued(0, 1, 200, q, 1), 1 + 12 * (199 - q) - 199);
             c.due("places " + q + ": most", z.queued(0, 1, 200, q, 2), q);
         }
+        BankStore all = row(17, 12, 16, 1, 2, 3, 4, 5, 6, 7, 8, 9, 10, 11, 12, 13, 14, 0);
+        c.due("each of 17 BANKS takes its own", all.queued(0, 1, 16, 1, 0), 16 + 12);
+        c.due("each of 17 BANKS takes its own: most", all.queued(0, 1, 16, 8, 2), 1);
         for (int q : Check.outside(1, 8)) {
             c.due("q " + q, x.queued(0, 1, 1, q, 0), BAD);
         }
@@ -169,7 +172,7 @@ public final class StreamsEdgesTest {
             c.due("one, REST " + r, oneBank(r).queued(0, 1, 1, 1, 0), 1 + r);
             BankStore x = row(2, r, 0, 0, 1);
             // BANK 0 takes its second in 1 + REST, BANK 1 its one in 3: the later one counts.
-            c.due("the last is not the last asked, REST " + r, x.queued(0, 1, 3, 8, 0), Math.max(r == 1 ? 2 : 1 + r, 3) + r);
+            c.due("the last is not the last asked, REST " + r, x.queued(0, 1, 3, 8, 0), Math.max(1 + r, 3) + r);
         }
     }
 
@@ -179,7 +182,8 @@ public final class StreamsEdgesTest {
     }
 
     private static void rateOfWhat() {
-        c.sentence(0, "RATE of an endless STREAM in order: asks by beats in the part that comes back for ever (a fraction).");
+        c.sentence(0, "RATE of an endless STREAM in order: asks by beats in the part that comes back for ever (a"
+                + " fraction).");
         for (int r = 1; r <= 12; r++) {
             rateIs("one BANK, REST " + r, oneBank(r), 0, 1, 1, r);
         }
@@ -200,6 +204,17 @@ public final class StreamsEdgesTest {
         c.due("steps 99: one address, rounds", x.rate(8, 99, 2), 2);
         // Steps 3 meet CELLS 0, 3, 6: BANKS 1, 2, 0.
         rateIs("steps 3: three addresses", x, 0, 3, 3, 5);
+        // The same nine BANKS at each second address of 18.
+        int[] apart = new int[18];
+        for (int k = 0; k < 9; k++) {
+            apart[2 * k] = new int[] {1, 0, 4, 2, 1, 6, 0, 2, 3}[k];
+            apart[2 * k + 1] = 5;
+        }
+        BankStore two = Check.laid(2, 9, 7, apart);
+        two.rest(5);
+        rateIs("steps 2 of 18: nine addresses", two, 0, 2, 6, 7);
+        c.due("steps 2 of 18: rounds of nine", two.rate(0, 2, 2), 3);
+        c.due("steps 56 of 18 are steps 2", two.rate(36, 56, 2), 3);
         BankStore one = new BankStore();
         one.table(1, 1);
         for (int s = 1; s <= 99; s += 7) {
@@ -213,13 +228,18 @@ public final class StreamsEdgesTest {
     }
 
     private static void comesBack() {
-        c.sentence(0, "when all BANKS have still to rest as long, at the end of a round, as at the end of some round ahead;");
+        c.sentence(0, "when all BANKS have still to rest as long, at the end of a round, as at the end of some"
+                + " round ahead;");
         c.due("nothing rests: the second round is as the first", oneBank(1).rate(0, 1, 2), 2);
         c.due("one BANK: the second as the first", oneBank(12).rate(0, 1, 2), 2);
         c.due("the third as the first", row(7, 5, 1, 0, 4, 2, 1, 6, 0, 2, 3).rate(0, 1, 2), 3);
         // Only one BANK of all 17, the first or the last, tells the rounds ahead apart.
         c.due("BANK 16 alone", row(17, 9, 16, 1, 2, 3, 16, 3, 2).rate(0, 1, 2), 4);
         c.due("BANK 0 alone", row(17, 9, 0, 1, 2, 3, 0, 3, 2).rate(0, 1, 2), 4);
+        // BANKS eight apart, of rests that would be alike if they were put together.
+        c.due("BANKS 0 and 8", row(17, 12, 0, 8, 5, 0, 5, 8).rate(0, 1, 2), 6);
+        c.due("BANKS 8, 0 and 15", row(17, 8, 8, 0, 15, 8, 15, 0).rate(0, 1, 2), 4);
+        c.due("BANKS 7, 15 and 16", row(17, 11, 16, 7, 10, 15, 16, 7, 15, 10).rate(0, 1, 2), 6);
         c.due("the eleventh as the tenth", row(8, 12, 6, 5, 7, 6, 1, 7, 3, 1, 6, 3, 6, 3, 5).rate(0, 1, 2), 11);
     }
 
@@ -292,8 +312,8 @@ public final class StreamsEdgesTest {
     }
 
     private static void queued() {
-        c.sentence(20, "A STREAM by QUEUES: when all is done (what 0), how many beats an ask waited ahead of a full QUEUE,"
-                + " summed (1), the most asks in one QUEUE (2). BAD.");
+        c.sentence(20, "A STREAM by QUEUES: when all is done (what 0), how many beats an ask waited ahead of a full"
+                + " QUEUE, summed (1), the most asks in one QUEUE (2). BAD.");
         BankStore x = oneBank(12);
         int[] one = {13, 0, 1};
         // Asks come in 0, 1, 2, are taken in 1, 13, 25: two at once wait in the QUEUE.
@@ -323,7 +343,8 @@ public final class StreamsEdgesTest {
     }
 
     private static void rate() {
-        c.sentence(21, "RATE: 0 the numerator, 1 the denominator, in lowest terms, 2 rounds until it came back. BAD; SPENT.");
+        c.sentence(21, "RATE: 0 the numerator, 1 the denominator, in lowest terms, 2 rounds until it came back."
+                + " BAD; SPENT.");
         BankStore x = new BankStore();
         // 64 asks in 64 beats, 8 in 8: lowest terms are 1 and 1.
         rateIs("one ask a beat", x, 0, 1, 1, 1);
@@ -343,8 +364,8 @@ public final class StreamsEdgesTest {
     }
 
     private static void steps() {
-        c.sentence(22, "Steps s of 1 to 99: how many have a RATE of 1 from address 0 on (what 0), the least RATE's step"
-                + " (of several the least; 1). BAD; SPENT.");
+        c.sentence(22, "Steps s of 1 to 99: how many have a RATE of 1 from address 0 on (what 0), the least RATE's"
+                + " step (of several the least; 1). BAD; SPENT.");
         BankStore x = oneBank(12);
         c.due("none", x.steps(0), 0);
         c.due("all alike: the least", x.steps(1), 1);
@@ -365,6 +386,10 @@ public final class StreamsEdgesTest {
         BankStore eleven = row(11, 2, 0, 1, 2, 3, 4, 5, 6, 7, 8, 9, 10);
         c.due("all but 11, 22, .. 99", eleven.steps(0), 90);
         c.due("the least of those", eleven.steps(1), 11);
+        // From address 0 on even steps meet BANK 0 alone, from 1 on they would meet two BANKS.
+        BankStore even = row(3, 2, 0, 1, 0, 2);
+        c.due("from address 0 on", even.steps(0), 50);
+        c.due("from address 0 on: the least", even.steps(1), 2);
         for (int what : Check.outside(0, 1)) {
             c.due("what " + what, x.steps(what), BAD);
         }

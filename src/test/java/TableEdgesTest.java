@@ -338,8 +338,8 @@ public final class TableEdgesTest {
     }
 
     private static void bank() {
-        c.sentence(7, "Of BANK v: how many CELLS (what 0), the first (row times 16 and column) (1; NONE),"
-                + " the last (2; NONE). BAD.");
+        c.sentence(7, "Of BANK v: how many CELLS (what 0), the first (row times 16 and column) (1; NONE), the last"
+                + " (2; NONE). BAD.");
         BankStore x = new BankStore();
         x.table(16, 16);
         x.banks(1);
@@ -356,6 +356,14 @@ public final class TableEdgesTest {
         c.due("an empty BANK has no first", x.bank(16, 1), NONE);
         c.due("an empty BANK has no last", x.bank(16, 2), NONE);
         c.due("row times 16, not times w", x.bank(1, 2), 33);
+        x.law(0, 2, 1);
+        // Row by row: BANKS 0, 1 / 2, 3 / 4, 5.
+        for (int v = 0; v < 6; v++) {
+            c.due("one CELL in BANK " + v, x.bank(v, 0), 1);
+            c.due("the first of BANK " + v, x.bank(v, 1), v / 2 * 16 + v % 2);
+            c.due("the last of BANK " + v, x.bank(v, 2), v / 2 * 16 + v % 2);
+        }
+        c.due("a row behind the last would be BANK 6", x.bank(6, 1), NONE);
         for (int v : Check.outside(0, 16)) {
             c.due("v " + v, x.bank(v, 0), BAD);
             c.due("v " + v + ": BAD, not NONE", x.bank(v, 1), BAD);
@@ -368,8 +376,8 @@ public final class TableEdgesTest {
     }
 
     private static void count() {
-        c.sentence(35, "How many: 0 rows, 1 columns, 2 BANKS, 3 the LAW, 4 a, 5 b, 6 WISHES, 7 REST, 8 lines,"
-                + " 9 bytes on THE TAPE, 10 CELLS of SHEET 0 (NONE: nothing). BAD.");
+        c.sentence(35, "How many: 0 rows, 1 columns, 2 BANKS, 3 the LAW, 4 a, 5 b, 6 WISHES, 7 REST, 8 lines, 9"
+                + " bytes on THE TAPE, 10 CELLS of SHEET 0 (NONE: nothing). BAD.");
         BankStore x = new BankStore();
         x.table(1, 16);
         x.banks(17);
@@ -402,7 +410,8 @@ public final class TableEdgesTest {
         c.promise(1);
         BankStore x = new BankStore();
         for (int call = 1; call <= 512; call++) {
-            c.due("call " + call + " of an object", x.lay(call % 8, call / 8 % 8, call % 7), call < 64 ? 0 : (call - 64) % 7);
+            int was = call < 64 ? 0 : (call - 64) % 7;
+            c.due("call " + call + " of an object", x.lay(call % 8, call / 8 % 8, call % 7), was);
         }
     }
 }
