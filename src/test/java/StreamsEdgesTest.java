@@ -236,6 +236,8 @@ public final class StreamsEdgesTest {
         // Only one BANK of all 17, the first or the last, tells the rounds ahead apart.
         c.due("BANK 16 alone", row(17, 9, 16, 1, 2, 3, 16, 3, 2).rate(0, 1, 2), 4);
         c.due("BANK 0 alone", row(17, 9, 0, 1, 2, 3, 0, 3, 2).rate(0, 1, 2), 4);
+        // Rounds end in beats 11, 27, 43, 59; BANK 0 has still to rest 3, 1, 0 and 0 beats, BANK 1 five, BANK 2 six.
+        c.due("one beat apart is not as long", row(3, 7, 0, 2, 1, 0, 1, 2).rate(0, 1, 2), 4);
         // BANKS eight apart, of rests that would be alike if they were put together.
         c.due("BANKS 0 and 8", row(17, 12, 0, 8, 5, 0, 5, 8).rate(0, 1, 2), 6);
         c.due("BANKS 8, 0 and 15", row(17, 8, 8, 0, 15, 8, 15, 0).rate(0, 1, 2), 4);
